@@ -390,7 +390,7 @@ public final class SelfIndexImage {
                 following[rowBefore(r)] = r;
             }
             text.clear();
-            // The END is before place 0, as if the text went round; so the way starts at its row.
+            // Row 0 is the END alone; going round, place 0 follows it.
             int row = following[0];
             for (int p = 0; p < last; p++) {
                 row = following[row];

@@ -23,6 +23,7 @@ public final class LoadTest {
         test.everyPairOfLevelFlips();
         test.columnsOfFewCharacters();
         test.fromOneTextToAnother();
+        test.imagesButForALimit();
         ANSWERS.end();
     }
 
@@ -193,6 +194,30 @@ public final class LoadTest {
                 dueLoad(words, NaiveImage.textOf(words));
             }
             ANSWERS.due("loaded at last", x.length(), to.length());
+        }
+    }
+
+    /** Words that are drawn by the rules, but of what is no text or at what is no rate. */
+    private void imagesButForALimit() {
+        for (String text : new String[] {"", "a", "hello", "x".repeat(60)}) {
+            for (int rate = 17; rate <= 70; rate++) {
+                dueLoad(NaiveImage.of(text, rate), null);
+            }
+            long[] words = NaiveImage.of(text, 1);
+            words[0] = text.length();
+            dueLoad(words, null);
+        }
+        for (int code = 0; code <= 127; code++) {
+            for (String like : new String[] {"?", "?ab", "a?b", "ab?", "?a?"}) {
+                String text = like.replace('?', (char) code);
+                boolean isText = code >= 32 && code <= 126;
+                dueLoad(NaiveImage.of(text, 2), isText ? text : null);
+            }
+        }
+        for (int rate = 1; rate <= 16; rate++) {
+            dueLoad(NaiveImage.of("y".repeat(60), rate), "y".repeat(60));
+            dueLoad(NaiveImage.of("y".repeat(61), rate), null);
+            dueLoad(NaiveImage.of("y".repeat(62), rate), null);
         }
     }
 

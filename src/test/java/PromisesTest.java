@@ -71,8 +71,10 @@ public final class PromisesTest {
     }
 
     private static void emptyPattern(SelfIndexImage x) {
-        for (int i = 0; i <= 20 && x.back(); i++) {
-            continue;
+        for (int i = 0; i <= 20; i++) {
+            if (!x.back()) {
+                return;
+            }
         }
     }
 
