@@ -483,7 +483,8 @@ public final class SelfIndexImage {
         }
 
         private void drawNumber(int firstWord, int i, long number) {
-            words[firstWord + i / NUMBERS_IN_WORD] |= number << (NUMBER_BITS * (i % NUMBERS_IN_WORD));
+            int shift = NUMBER_BITS * (i % NUMBERS_IN_WORD);
+            words[firstWord + i / NUMBERS_IN_WORD] |= number << shift;
         }
     }
 }
