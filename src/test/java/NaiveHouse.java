@@ -83,6 +83,10 @@ final class NaiveHouse {
         return inLoaded(r) ? NaiveImage.placeOf(loaded, r) : -1;
     }
 
+    String pattern() {
+        return pattern;
+    }
+
     boolean ask(char c) {
         if (c < 32 || c > 126 || pattern.length() == 20) {
             return false;
