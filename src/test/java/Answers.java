@@ -21,6 +21,13 @@ final class Answers {
         due(call, got ? 1 : 0, want ? 1 : 0);
     }
 
+    void dueAtMost(String what, long got, long most) {
+        checked++;
+        if (got > most) {
+            tell(what + ": " + got + ", due is at most " + most);
+        }
+    }
+
     void dueText(String what, String got, String want) {
         checked++;
         if (!got.equals(want)) {

@@ -77,6 +77,11 @@ public final class RandomRunsTest {
                 : (char) (least + random.nextInt(kinds));
     }
 
+    /** Now and then a number from anywhere. */
+    private int orAny(int number) {
+        return random.nextInt(20) == 0 ? random.nextInt() : number;
+    }
+
     private void writeSome() {
         if (random.nextInt(12) == 0) {
             x.erase();
@@ -97,7 +102,7 @@ public final class RandomRunsTest {
     }
 
     private void buildAndLoad() {
-        int rate = random.nextInt(20) - 1;
+        int rate = orAny(random.nextInt(20) - 1);
         due("build " + rate, x.build(rate), house.build(rate));
         if (random.nextInt(4) != 0 && calls < MOST_CALLS) {
             due("load", x.load(), house.load());
@@ -105,8 +110,8 @@ public final class RandomRunsTest {
     }
 
     private void spoil() {
-        int k = random.nextInt(25) - 1;
-        int b = random.nextInt(10) == 0 ? random.nextInt(70) - 3 : random.nextInt(8);
+        int k = orAny(random.nextInt(25) - 1);
+        int b = random.nextInt(10) == 0 ? orAny(random.nextInt(70) - 3) : random.nextInt(8);
         due("flip " + k + " " + b, x.flip(k, b), house.flip(k, b));
         if (calls < MOST_CALLS) {
             due("load", x.load(), house.load());
@@ -120,7 +125,7 @@ public final class RandomRunsTest {
     }
 
     private void watchOne() {
-        int k = random.nextInt(64) - 2;
+        int k = orAny(random.nextInt(64) - 2);
         switch (random.nextInt(10)) {
             case 0 -> due("length", x.length(), house.length());
             case 1 -> due("rate", x.rate(), house.rate());
